@@ -538,30 +538,29 @@ public final class MarginBooks {
                 if (sort == END) {
                     return items;
                 }
-                if (!readItem(draft, items == 0)) {
+                boolean stands;
+                switch (sort == LETTERS ? value : 0) {
+                    case 'o':
+                        stands = items == 0 && readOpinions(draft);
+                        break;
+                    case 'b':
+                        stands = !bookTold && readBook(draft);
+                        break;
+                    case 's':
+                        stands = draft.scribes < SCRIBES_MOST && readScribe(draft);
+                        break;
+                    case 'n':
+                        stands = !needTold && readNeed(draft);
+                        break;
+                    default:
+                        stands = false;
+                }
+                if (!stands) {
                     break;
                 }
             }
+            // Whatever could not stand, the TOKEN read last is the one at fault.
             return -10 - place;
-        }
-
-        /** Whether an ITEM stands here; if not, the TOKEN read last is the one at fault. */
-        private boolean readItem(House draft, boolean first) {
-            if (sort != LETTERS) {
-                return false;
-            }
-            switch (value) {
-                case 'o':
-                    return first && readOpinions(draft);
-                case 'b':
-                    return !bookTold && readBook(draft);
-                case 's':
-                    return draft.scribes < SCRIBES_MOST && readScribe(draft);
-                case 'n':
-                    return !needTold && readNeed(draft);
-                default:
-                    return false;
-            }
         }
 
         private boolean readOpinions(House draft) {

@@ -196,6 +196,10 @@ public final class PromisesTest {
         fault("n1;n1;", 3);
         fault("x;", 0);
         fault("oo2;", 0);
+        fault("oz2;", 0);
+        fault("oa2;", 0);
+        fault("b19;", 1);
+        fault("b90;", 1);
         fault("os", 0);
         fault("o2;bs", 3);
         fault(";", 0);
@@ -278,6 +282,16 @@ public final class PromisesTest {
         Due.is("4 house() of nothing", x.house(), 0);
         Due.is("4 then no LINES", x.count(1), 0);
         Due.is("4 then nobody", x.count(2), 0);
+        Due.type(x, "o2;b1 1 1 1;s0 0;n4;");
+        Due.is("4 a third house", x.house(), 4);
+        Due.is("4 its rounds", x.lasts(0), 15);
+        Due.type(x, "s0 3;b1;");
+        Due.is("4 a fourth house", x.house(), 2);
+        Due.is("4 its OPINIONS", x.count(0), 5);
+        Due.is("4 its NEED", x.count(3), 1);
+        Due.is("4 its LINE", x.line(0, 0), 1);
+        Due.is("4 its rounds, too", x.lasts(0), 0);
+        Due.is("4 COMES round in it", x.scribe(0, 6), NONE);
     }
 
     private static void line() {
@@ -509,6 +523,7 @@ public final class PromisesTest {
         x.releases(0, 0);
         x.copies(0);
         Due.is("13 now(0)", x.now(0), 1);
+        Due.is("13 now(2) with the first one", Due.told("b1;s1 0;s1 1;").now(2), 1);
         Due.is("13 now(6)", x.now(6), BAD);
         Due.is("13 now(-1)", x.now(-1), BAD);
         Due.is("13 now(highest)", x.now(HIGHEST), BAD);
@@ -607,6 +622,11 @@ public final class PromisesTest {
         MarginBooks z = Due.told("o4;b0 0;s2 0;n2;");
         Due.is("16 1 1 lasts longest", z.lasts(0), 5);
         Due.is("16 2 COPIES with NEED 2", z.lasts(1), 2);
+        // 3x + 2 of 4: 1 stays, 3 too; 0 and 2 change for ever, unless "1" comes behind: 0, 2, 1,
+        // and the first is CONVINCED. The longest, 0, is not the last one.
+        MarginBooks first = Due.told("o4;b3;s3 2;s0 1;");
+        Due.is("16 the longest", first.lasts(0), 0);
+        Due.is("16 its COPIES", first.lasts(1), 2);
         MarginBooks convinced = Due.told("b3;s1 0;");
         Due.is("16 all last 0: the least", convinced.lasts(0), 0);
         Due.is("16 0 COPIES", convinced.lasts(1), 0);
@@ -879,6 +899,44 @@ public final class PromisesTest {
         Due.is("26 LINE 0 of the other", x.line(0, 0), 4);
         Due.is("26 UNDONE of the other", x.undo(), 5);
         Due.is("26 as ahead of it", x.line(0, 0), 0);
+        Due.is("25 keep(2)", x.keep(2), BAD);
+        Due.is("25 keep(-1)", x.keep(-1), BAD);
+        Due.is("26 back(2)", x.back(2), BAD);
+        Due.is("26 back(-1)", x.back(-1), BAD);
+        Due.is("26 BAD ahead of STATE", new MarginBooks().back(2), BAD);
+        pastOfImages();
+    }
+
+    /** An IMAGE has a past of its own, whatever was UNDONE and done otherwise since. */
+    private static void pastOfImages() {
+        MarginBooks x = Due.told("b0;s1 1;");
+        x.errs(0, 3);
+        x.errs(0, 1);
+        x.keep(0);
+        x.undo();
+        x.undo();
+        x.errs(0, 2);
+        x.errs(0, 4);
+        Due.is("26 back(0)", x.back(0), 0);
+        Due.is("26 LINE 0 as kept", x.line(0, 0), 1);
+        x.undo();
+        Due.is("26 LINE 0 ahead of it", x.line(0, 0), 3);
+        x.undo();
+        Due.is("26 LINE 0 at first", x.line(0, 0), 0);
+        for (int i = 1; i <= 10; i++) {
+            x.copies(0);
+        }
+        Due.is("25 keep(1) with 10 known", x.keep(1), 10);
+        Due.is("26 LINE 0 with 10 known", x.line(0, 0), 0);
+        x.copies(0);
+        x.copies(0);
+        Due.is("26 LINE 0 with older ones lost", x.line(0, 0), 2);
+        Due.is("26 back(1)", x.back(1), 10);
+        for (int i = 9; i >= 0; i--) {
+            Due.is("26 undo()", x.undo(), i);
+            Due.is("26 COPIES", x.now(0), i);
+        }
+        Due.is("26 none", x.undo(), STATE);
     }
 
     private static void count() {
