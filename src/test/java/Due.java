@@ -1,9 +1,35 @@
+import java.io.IOException;
+import java.nio.file.Files;
+import java.nio.file.Path;
+
 /** What the tests share: they say every answer that is not as due, and end with 1 if one was. */
 final class Due {
+    private static final Path DOCUMENT = Path.of("../shared/DOC.md");
+
     private static int asked;
     private static int wrong;
+    private static String sentence = "";
+    private static String document;
 
     private Due() {
+    }
+
+    /** What follows is due by this sentence, which must stand so in the document. */
+    static void by(String words) {
+        sentence = " (" + words + ")";
+        if (document == null) {
+            document = readDocument();
+        }
+        holds("the document has these words", document.isEmpty() || document.contains(words));
+    }
+
+    /** In one line; nothing, where there is no document to look into. */
+    private static String readDocument() {
+        try {
+            return Files.readString(DOCUMENT).replaceAll("\\s+", " ");
+        } catch (IOException e) {
+            return "";
+        }
     }
 
     static void is(String call, long got, long want) {
@@ -11,7 +37,7 @@ final class Due {
         if (got != want) {
             wrong++;
             if (wrong <= 50) {
-                System.out.println(call + " answered " + got + ", due is " + want);
+                System.out.println(call + " answered " + got + ", due is " + want + sentence);
             }
         }
     }
@@ -20,7 +46,7 @@ final class Due {
         asked++;
         if (!so) {
             wrong++;
-            System.out.println("not so: " + what);
+            System.out.println("not so: " + what + sentence);
         }
     }
 
