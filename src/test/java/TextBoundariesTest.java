@@ -28,6 +28,7 @@ public final class TextBoundariesTest {
         withoutBook();
         howManyItems();
         isEmptyThen();
+        nothingIsLeft();
         newObject();
         Due.close();
     }
@@ -487,6 +488,45 @@ public final class TextBoundariesTest {
                     && anew.count(1) == fresh.count(1) && anew.count(2) == fresh.count(2)
                     && anew.count(3) == fresh.count(3) && anew.lasts(0) == fresh.lasts(0));
         }
+    }
+
+    /** What an earlier text told, at fault or not, is not told by a later one. */
+    private static void nothingIsLeft() {
+        Due.by("-10 less FAULT: nothing changes.");
+        String whole = "o2;b1 1 1;s3 3;s2 2;n3;";
+        MarginBooks x = busy(whole + "x");
+        Due.is("a text at fault", x.house(), -10 - whole.length());
+        x.clear();
+        asAtFirst("behind a text at fault", x);
+        // Three houses, so that none is the first to be read where an earlier one was.
+        MarginBooks y = busy(whole);
+        Due.is("a house", y.house(), 5);
+        asAtFirst("behind a house", y);
+        asAtFirst("behind two houses", y);
+        Due.type(y, whole);
+        Due.is("the house again", y.house(), 5);
+        asAtFirst("behind the house again", y);
+    }
+
+    private static void asAtFirst(String where, MarginBooks x) {
+        Due.is("house() of nothing " + where, x.house(), 0);
+        int[] counts = {5, 0, 0, 1, 0, 0, 0};
+        for (int what = 0; what < counts.length; what++) {
+            Due.is("count(" + what + ") " + where, x.count(what), counts[what]);
+        }
+        Due.is("line(0, 0) " + where, x.line(0, 0), BAD);
+        Due.is("scribe(0, 0) " + where, x.scribe(0, 0), BAD);
+        Due.type(x, "b4;s1 1;");
+        Due.is("house() of one LINE " + where, x.house(), 2);
+        Due.is("its LINE " + where, x.line(0, 0), 4);
+        Due.is("its TARGET " + where, x.line(0, 1), 4);
+        Due.is("its OPINIONS " + where, x.count(0), 5);
+        Due.is("its LINES " + where, x.count(1), 1);
+        Due.is("its SCRIBES " + where, x.count(2), 1);
+        Due.is("its NEED " + where, x.count(3), 1);
+        Due.is("its ROUND " + where, x.behind(1, 0), 0);
+        Due.is("COMES round in it " + where, x.scribe(0, 6), 5);
+        Due.is("books before it " + where, x.from(0), 1);
     }
 
     private static void newObject() {
