@@ -62,8 +62,8 @@ public final class RoundBoundariesTest {
 
     /** Six who each say one thing, whatever they read. */
     private static void againAndAgain() {
-        Due.by("SCRIBES who are not RELEASED COPY THE BOOK one behind another, by numbers from the"
-                + " lowest on, again and again");
+        Due.by("A ROUND: SCRIBES who are not RELEASED COPY THE BOOK one behind another, by numbers"
+                + " from the lowest on, again and again");
         int[] say = {1, 2, 3, 4, 0, 2};
         MarginBooks x = Due.told("b0;s0 1;s0 2;s0 3;s0 4;s0 0;s0 2;");
         Due.is("behind(0, 0)", x.behind(0, 0), 0);
