@@ -396,7 +396,7 @@ public final class MarginBooks {
         }
 
         private void addScribe(int turnTold, int bentTold) {
-            if (scribes < SCRIBES_MOST) {
+            if (scribes >= 0 && scribes < SCRIBES_MOST) {
                 turn[scribes] = turnTold;
                 bent[scribes] = bentTold;
                 scribes++;
